@@ -56,6 +56,7 @@ public final class LinenGuilt {
             linenKept[i] = new Linen();
             pastKept[i] = new Past();
         }
+        linen.begin(common);
     }
 
     // ---- texts
@@ -739,11 +740,15 @@ public final class LinenGuilt {
         private int strips;
         private int deeds;
         private int rains;
-        private int milk = 5;
-        private int sight = 1;
+        private int milk;
+        private int sight;
         private Law law = new Law();
 
-        void read(Tape tape) {
+        private Common() {
+            forget();
+        }
+
+        private void forget() {
             cells = 0;
             strips = 0;
             deeds = 0;
@@ -751,6 +756,10 @@ public final class LinenGuilt {
             milk = 5;
             sight = 1;
             law.becomePlain();
+        }
+
+        void read(Tape tape) {
+            forget();
             for (int clauses = 0; clauses <= MOST_CLAUSES && tape.peek() != Tape.END; clauses++) {
                 readClause(tape, clauses);
             }
@@ -1100,7 +1109,7 @@ public final class LinenGuilt {
                     for (int k = 0; k < what[i] && begun < MOST_BEGUN && open < MOST_OPEN; k++) {
                         runSteps(linen, common, i + 1, behind[i], open + 1);
                     }
-                    i = behind[i] - 1;
+                    i = Math.max(i, behind[i] - 1);
                 } else if (runStep(linen, common, i)) {
                     done++;
                 } else {
@@ -1128,7 +1137,7 @@ public final class LinenGuilt {
         private final int[] wets = new int[MOST_STRIPS];
         private final int[] milked = new int[MOST_STRIPS];
         private int day;
-        private int milkLeft = 5;
+        private int milkLeft;
 
         void begin(Common common) {
             day = 0;
