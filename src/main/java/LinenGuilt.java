@@ -652,7 +652,7 @@ public final class LinenGuilt {
             for (int i = at; i < end && bytes[i] == ' '; i++) {
                 at = i + 1;
             }
-            return failed() || at >= end ? END : bytes[at];
+            return faultKind != 0 || at >= end ? END : bytes[at];
         }
 
         boolean isDigitNext() {
@@ -822,7 +822,7 @@ public final class LinenGuilt {
 
         int sunOf(int first, int many) {
             int all = 0;
-            for (int cell = Math.max(0, first); cell < first + many && cell < cells; cell++) {
+            for (int cell = first; cell >= 0 && cell < first + many && cell < cells; cell++) {
                 all += sun[cell];
             }
             return all;
@@ -1008,8 +1008,8 @@ public final class LinenGuilt {
                 case TIMES: return a * b;
                 case BY: return b == 0 ? 0 : a / b;
                 case REST: return b == 0 ? 0 : a % b;
-                case LEAST: return Math.min(a, b);
-                default: return Math.max(a, b);
+                case LEAST: return a < b ? a : b;
+                default: return a > b ? a : b;
             }
         }
     }
@@ -1106,15 +1106,19 @@ public final class LinenGuilt {
             for (int i = from; i < to && begun < MOST_BEGUN; i++) {
                 begun++;
                 if (kind[i] == AGAIN) {
-                    for (int k = 0; k < what[i] && begun < MOST_BEGUN && open < MOST_OPEN; k++) {
-                        runSteps(linen, common, i + 1, behind[i], open + 1);
-                    }
+                    runAgain(linen, common, i, open + 1);
                     i = Math.max(i, behind[i] - 1);
                 } else if (runStep(linen, common, i)) {
                     done++;
                 } else {
                     refused++;
                 }
+            }
+        }
+
+        private void runAgain(Linen linen, Common common, int place, int open) {
+            for (int k = 0; k < what[place] && begun < MOST_BEGUN && open <= MOST_OPEN; k++) {
+                runSteps(linen, common, place + 1, behind[place], open);
             }
         }
 
@@ -1125,7 +1129,12 @@ public final class LinenGuilt {
                 case WET: return linen.wet(what[i]);
                 case MILK: return linen.giveMilk(what[i]);
                 case MOLE: return linen.dig(common, what[i]);
-                default: return linen.endDay(common);
+                default:
+                    if (linen.day >= LAST_DAY) {
+                        return false;
+                    }
+                    linen.passDay(common, common.rainOf(linen.day));
+                    return true;
             }
         }
     }
@@ -1200,14 +1209,6 @@ public final class LinenGuilt {
                 return false;
             }
             grey[strip] = Math.min(MOST_GREY, grey[strip] + 5);
-            return true;
-        }
-
-        boolean endDay(Common common) {
-            if (day >= LAST_DAY) {
-                return false;
-            }
-            passDay(common, common.rainOf(day));
             return true;
         }
 

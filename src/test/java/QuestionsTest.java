@@ -15,6 +15,7 @@ public final class QuestionsTest {
         shares();
         rows();
         summers();
+        fullCommon();
         C.finish();
     }
 
@@ -74,6 +75,8 @@ public final class QuestionsTest {
         packed(x, 6, 10, -1, 0, 1);
         packed(x, 1, 7, 0, -1, -1);
         packed(x, 0, 0, -1, -1, -1);
+        packed(x, 5, 13, 0, -1, 3);
+        C.due("18: packed with another pack ahead", 5, x.packed(7, 1));
         Checks.work(x, "lay 2 0;wet 2;milk 2;");
         packed(x, 7, 16, 0, 5, 2);
         // the third DAY's rain, and the GREY that is left
@@ -105,7 +108,15 @@ public final class QuestionsTest {
         packed(v, 3, 2, 0, 2, 0);
         packed(v, 1, 2, 2, -1, 0);
         Checks.work(v, "day;lay 0 0;wet 0;milk 0;");
+        C.due("11: WHITENS, wetted and with buttermilk", 99, v.strip(0, 5));
         packed(v, 1, 7, 0, -1, 0);
+        C.due("11: WHITENS, wetted and with buttermilk", 99, v.strip(0, 5));
+        C.due("30: sunniest, dry", 7, v.sunniest(0, 1));
+        // fewer STRIPS than the pack ahead was of
+        Checks.common(v, "cell 1;cell 4;strip 1 50;");
+        packed(v, 1, 4, 1, 0, 0);
+        Checks.common(v, "cell 1;");
+        packed(v, 0, 0, 0, 0, 0);
     }
 
     private static void packed(LinenGuilt x, int strips, int gone, int a, int b, int c) {
@@ -179,6 +190,7 @@ public final class QuestionsTest {
         Checks.work(x, "wet 0;wet 0;");
         likely(x, 0, 8, 3, 3, 0, 1);
         likely(x, 0, 8, 6, 3, 1, 2);
+        likely(x, 0, 8, 0, 3, 0, 1);
         Checks.work(x, "day;");
         likely(x, 1, 3, 3, 0, 1, 1);
         likely(x, 1, 3, 3, 8, 1, 1);
@@ -196,6 +208,23 @@ public final class QuestionsTest {
         LinenGuilt y = Checks.told("cell 0;strip 1 72;", "lay 0 0;");
         likely(y, 0, 1, 9, 8, 1, 4294967296L);
         likely(y, 0, 15, 9, 8, 2562890625L, 4294967296L);
+        // greyest of all; then by a LAW that asks for the GREY: 99 32 10 3 0 by rain alone, 99 65 43 .. without
+        LinenGuilt w = Checks.told("cell 0;strip 1 99;", "lay 0 0;");
+        likely(w, 0, 16, 9, 8, 0, 1);
+        Checks.law(w, "99 * (rain - 8) + 9");
+        likely(w, 0, 3, 9, 1, 3, 16);
+        Checks.law(w, "grey * (1 + rain) / 3 + 1");
+        likely(w, 0, 8, 1, 3, 0, 1);
+        likely(w, 0, 8, 1, 4, 1, 16);
+        likely(w, 0, 8, 1, 5, 13, 32);
+        // wetted and with buttermilk on the first DAY
+        LinenGuilt first = Checks.told("cell 0;strip 1 20;", "lay 0 0;wet 0;milk 0;");
+        Checks.law(first, "wet * 20");
+        likely(first, 0, 8, 1, 1, 1, 1);
+        Checks.law(first, "milk * 20");
+        likely(first, 0, 8, 1, 1, 1, 1);
+        Checks.law(first, "most[wet, milk] * day * 20 + day / 2");
+        likely(first, 0, 8, 1, 3, 0, 1);
         // the DAY counts on, buttermilk is there the first DAY
         LinenGuilt z = Checks.told("cell 0;strip 1 9;", "day;lay 0 0;milk 0;");
         Checks.law(z, "milk * 3 + day * (1 - rain) + wet");
@@ -213,6 +242,7 @@ public final class QuestionsTest {
         mayBe(x, 11, 0, -1, 0, 0);
         mayBe(x, 72, 0, -1, 0, 0);
         ask(x, 11, 0, 0);
+        ask(x, 0, 0, 1);
         Checks.sayings(x, "2 0;");
         mayBe(x, 5, 2, 3, 1, 4);
         ask(x, 5, 1, 1);
@@ -223,6 +253,17 @@ public final class QuestionsTest {
         Checks.sayings(x, "0 0;1 0;2 1;3 0;");
         mayBe(x, 5, 1, 4, 4, 11);
         ask(x, 5, -1, -1);
+        // no line of any SAYINGS ahead is left
+        Checks.sayings(x, "0 1;");
+        Checks.sayings(x, "1 1;");
+        Checks.sayings(x, "2 1;");
+        mayBe(x, 5, 1, 4, 4, 11);
+        Checks.sayings(x, "3 1;");
+        mayBe(x, 5, 1, 9, 9, 6);
+        Checks.sayings(x, "1 0;");
+        mayBe(x, 5, 2, 4, 0, 2);
+        Checks.sayings(x, "");
+        mayBe(x, 5, 3, 3, 0, 0);
         C.wrong("22: mayBe(73, 0)", x, () -> x.mayBe(73, 0));
         C.wrong("22: mayBe(-1, 0)", x, () -> x.mayBe(-1, 0));
         C.wrong("22: mayBe(0, 4)", x, () -> x.mayBe(0, 4));
@@ -419,6 +460,46 @@ public final class QuestionsTest {
         C.wrong("34: what 4", x, () -> x.summer(1, 1, 0, 0, 4));
         C.wrong("34: what -1", x, () -> x.summer(1, 1, 0, 0, -1));
         spans(laid());
+    }
+
+    /** As much of all as a COMMON can have. */
+    private static void fullCommon() {
+        LinenGuilt x = Checks.told(Checks.times(12, "cell 9;") + Checks.times(6, "strip 2 50;")
+                + Checks.times(8, "deed 1;") + Checks.times(7, "rain 0;"),
+                "lay 0 0;lay 1 2;lay 2 4;lay 3 6;lay 4 8;lay 5 10;");
+        C.due("9: all lie", 6, x.told(7));
+        C.due("10: on the last CELL", 5, x.cell(11, 1));
+        C.due("14: fits", true, x.fits(5, 10));
+        C.due("14: fits not", false, x.fits(5, 9));
+        C.due("15: ahead", 6 * 41, x.ahead(1, 0));
+        C.due("15: WHITE", 63, x.ahead(6, 1));
+        C.due("16: white", 6, x.white(5));
+        C.due("17: pack", 54, x.pack(63));
+        C.due("18: packed", 10, x.packed(63, 5));
+        int[] given = {0, 0, 0, 2, 9, 9};
+        C.due("19: wets", 54 + 40, x.wets(20));
+        for (int strip = 0; strip < 6; strip++) {
+            C.due("20: wetted(20, " + strip + ")", given[strip], x.wetted(20, strip));
+        }
+        likely(x, 5, 16, 1, 5, 1, 1);
+        mayBe(x, 8, 1, 255, 255, 0);
+        ask(x, 0, 0, 1);
+        C.due("24: boxes", 2 + 16 + 128 + 1024, x.boxes());
+        C.due("25: seen", 4095, x.seen(4095));
+        C.due("27: share", 1, x.share(5, 63, 6));
+        pair("28: free", 0, -1, x.free(0), x.free(1));
+        pair("29: greyest", 0, 50, x.greyest(0), x.greyest(1));
+        pair("31: sunny", -1, -1, x.sunny(1, 0), x.sunny(1, 1));
+        C.due("32: whiteYards", 6, x.whiteYards(12));
+        C.due("32: whiteYards", -1, x.whiteYards(13));
+        C.due("33: spare", 54, x.spare());
+        C.due("34: summer", 6 * 41, x.summer(1, 1, 0, 0, 0));
+        C.due("35: span, one of one seed", 6 * 41, x.span(1, 1, 1, 0, 0, 0, 5));
+        C.due("35: span, by how many of twenty", 20, x.span(1, 20, 6, 0, 0, 2, 5));
+        C.due("35: span, by how many of three", 3, x.span(1, 3, 6, 0, 0, 2, 5));
+        Checks.work(x, "again 10 [mole 11;];");
+        C.due("5: moles", 99, x.strip(5, 1));
+        pair("29: greyest, the last", 5, 99, x.greyest(0), x.greyest(1));
     }
 
     private static void summer(LinenGuilt x, int seed, int days, int q, int m, int grey, int white, int moles, int rains) {

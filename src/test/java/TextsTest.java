@@ -88,6 +88,21 @@ public final class TextsTest {
         Checks.work(x, "day;");
         C.due("3: the empty text", 0, x.common(0));
         C.due("3: DAY 0", 0, x.told(4));
+        // what was read two commons ago is forgotten as well
+        for (int i = 0; i < 3; i++) {
+            Checks.common(x, "cell 5;cell 5;cell 5;strip 1 50;deed 7;rain 7;milk 7;sight 2;");
+            Checks.law(x, "3");
+            Checks.work(x, "lay 0 0;wet 0;milk 0;");
+            C.due("3: yet another", 1, Checks.common(x, "cell 5;cell 5;cell 5;strip 1 60;"));
+            int[] fresh = {3, 1, 0, 0, 0, 0, 5, 0, 0, 0, 0, 60};
+            for (int what = 0; what < fresh.length; what++) {
+                C.due("3: fresh, told(" + what + ")", fresh[what], x.told(what));
+            }
+            C.due("3: fresh, sight", 3, x.seen(1));
+            C.due("3: fresh, dry", 0, x.strip(0, 3));
+            C.due("3: fresh, without buttermilk", 0, x.strip(0, 4));
+            C.due("3: fresh, LAW", 5, x.sunniest(0, 1));
+        }
         C.due("3: 600 bytes", 0, Checks.common(x, Checks.times(60, "milk   99;")));
     }
 
@@ -254,6 +269,12 @@ public final class TextsTest {
     private static void workFaults() {
         workFault(1, 7, "fold 0;;");
         workFault(1, 0, "days;");
+        workFault(1, 0, "dayz;");
+        workFault(1, 0, "aday;");
+        workFault(1, 3, "day`;");
+        workFault(1, 3, "day{;");
+        workFault(1, 4, "wet /;");
+        workFault(1, 4, "wet :;");
         workFault(1, 3, "day");
         workFault(1, 3, "day,");
         workFault(1, 4, "day;]");

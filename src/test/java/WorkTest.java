@@ -212,6 +212,24 @@ public final class WorkTest {
         C.due("37: none", -1, x.restore());
         C.due("37: the DAY", 1, x.told(4));
         C.due("37: WORKS", 1, x.count(2));
+        // works done behind the image, instead of those that it has, leave its own alone
+        LinenGuilt y = Checks.told(COMMON);
+        steps("lay 0 0;", y, 1, 0);
+        steps("lay 1 2;", y, 1, 0);
+        y.image();
+        y.undo();
+        y.undo();
+        steps("again 9 [day;];", y, 9, 0);
+        steps("lay 2 3;", y, 1, 0);
+        steps("lay 0 0;", y, 1, 0);
+        C.due("37: restore()", 0, y.restore());
+        C.due("37: its own WORKS", 1, y.undo());
+        C.due("37: as ahead of the second", 0, y.strip(0, 2));
+        C.due("37: the DAY", 0, y.told(4));
+        C.due("37: STRIPS that lie", 1, y.told(7));
+        C.due("37: its own WORKS", 0, y.undo());
+        C.due("37: the DAY", 0, y.told(4));
+        C.due("37: none lies", 0, y.told(7));
         C.due("36: again one", 1, x.image());
         x.common(0);
         C.due("3: no IMAGES", -1, x.restore());
@@ -246,6 +264,7 @@ public final class WorkTest {
         C.wrong("11: strip(0, -1)", x, () -> x.strip(0, -1));
         C.due("12: deed(2)", 5, x.deed(2));
         C.due("12: deed(0)", 3, x.deed(0));
+        C.due("12: deed(3)", 2, x.deed(3));
         C.missing("12: deed(4)", x, () -> x.deed(4));
         C.missing("12: deed(-1)", x, () -> x.deed(-1));
         C.due("38: status(0)", 7, x.status(0));
