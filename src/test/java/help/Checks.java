@@ -2,7 +2,13 @@ import java.util.NoSuchElementException;
 
 /** What the tests share: texts fed to the tape, answers held against those that are due. */
 final class Checks {
+    static final int NONE = LinenGuilt.NONE;
+
+    private static final int NONE_THROWN = 2;
+    private static final int OTHER_THROWN = 3;
+
     private final String name;
+    private String sentence = "";
     private int asked;
     private int wrong;
 
@@ -14,8 +20,13 @@ final class Checks {
         asked++;
         if (got != want) {
             wrong++;
-            System.out.println(name + ": " + call + " answered " + got + ", due is " + want);
+            System.out.println(name + ": " + sentence + call + " answered " + got + ", due is " + want);
         }
+    }
+
+    /** From here on all is asked for this sentence of DOC.md. */
+    void says(String words) {
+        sentence = "\"" + words + "\" | ";
     }
 
     void due(String call, boolean want, boolean got) {
@@ -48,9 +59,6 @@ final class Checks {
         due(call + ", then status(0)", missing + (reason == 0 ? 1 : 0), x.status(0));
         due(call + ", then status(1)", wrongs + (reason == 1 ? 1 : 0), x.status(1));
     }
-
-    private static final int NONE_THROWN = 2;
-    private static final int OTHER_THROWN = 3;
 
     void finish() {
         System.out.println(name + ": " + asked + " answers, " + wrong + " not as due");
