@@ -187,6 +187,7 @@ public final class BoundaryQuestionsTest {
         C.says("of all ways to lay some of these that by which most GREY is gone by day now");
         packed(Checks.told("cell 9;cell 9;strip 2 50;strip 1 50;strip 1 50;"), 7, 18, NONE, 0, 1);
         packed(Checks.told("cell 9;cell 9;strip 2 50;strip 1 50;strip 1 50;"), 5, 9, 0, NONE, NONE);
+        packed(Checks.told("cell 9;cell 9;cell 9;strip 1 50;strip 2 50;strip 1 50;strip 1 50;"), 15, 27, 0, NONE, 1, 2);
         packed(Checks.told("cell 1;strip 2 50;"), 1, 0, NONE);
         packed(Checks.told("strip 1 50;"), 1, 0, NONE);
         packed(Checks.told("cell 1;cell 9;strip 1 50;"), 0, 0, NONE);
@@ -194,6 +195,7 @@ public final class BoundaryQuestionsTest {
         packed(lawful("day * 9 + first", "cell 1;cell 2;strip 1 50;", "day;"), 1, 10, 1);
         C.says("(of each what it WHITENS, dry, without buttermilk, but no more than its GREY)");
         LinenGuilt wet = lawful("wet * 9 + milk * 20 + 2", "cell 1;strip 1 50;", "lay 0 0;wet 0;milk 0;");
+        C.due("strip(0, 5), as it lies", 9 + 20 + 2, wet.strip(0, 5));
         packed(wet, 1, 2, 0);
         packed(Checks.told("cell 9;cell 9;strip 1 8;strip 1 9;"), 3, 17, 0, 1);
         packed(Checks.told("cell 9;strip 1 8;strip 1 9;"), 3, 9, NONE, 0);
@@ -223,6 +225,11 @@ public final class BoundaryQuestionsTest {
         C.says("The CELL from which a STRIP lies by PACK; NONE: it does not");
         packed(Checks.told(times(12, "cell 9;") + times(6, "strip 2 50;")), 63, 54, 0, 2, 4, 6, 8, 10);
         packed(Checks.told(times(12, "cell 9;") + times(6, "strip 2 50;")), 42, 27, NONE, 0, NONE, 2, NONE, 4);
+        LinenGuilt alone = Checks.told("cell 1;cell 9;strip 1 50;strip 1 50;");
+        C.due("packed(2, 1), nothing asked ahead", 1, alone.packed(2, 1));
+        C.due("packed(3, 1), packed(2, 1) asked ahead", 1, alone.packed(3, 1));
+        C.due("packed(3, 0)", 0, alone.packed(3, 0));
+        C.due("packed(1, 0)", 1, alone.packed(1, 0));
     }
 
     private static void wetted(LinenGuilt x, int n, int gone, int... given) {
@@ -269,6 +276,11 @@ public final class BoundaryQuestionsTest {
         C.says("WETS of n (0 to 20): the GREY that is gone; NONE: not so many can be dealt out");
         LinenGuilt x = Checks.told(common, "lay 0 0;lay 1 1;lay 2 2;");
         wetted(x, 20, 40, 2, 9, 9);
+        LinenGuilt six = Checks.told(times(6, "cell 9;") + times(3, "strip 1 50;") + times(3, "strip 1 9;"),
+                "lay 0 0;lay 1 1;lay 2 2;lay 3 3;lay 4 4;lay 5 5;");
+        wetted(six, 20, 54 + 40, 2, 9, 9, 0, 0, 0);
+        wetted(six, 0, 54, 0, 0, 0, 0, 0, 0);
+        C.due("wetted(9, 2), wets(20) asked ahead", 9, six.wetted(9, 2));
         C.wrong("wets(21)", x, () -> x.wets(21));
         C.wrong("wets(-1)", x, () -> x.wets(-1));
         LinenGuilt none = Checks.told(common);
@@ -299,6 +311,7 @@ public final class BoundaryQuestionsTest {
         likely(x, 0, 5, 8, 1, 0, 1);
         likely(x, 1, 5, 9, 2, 25, 256);
         likely(x, 0, 5, 9, 2, 256 - 121, 256);
+        likely(lawful("(1 - rain) * 9", common, "lay 0 0;"), 0, 5, 9, 1, 11, 16);
         C.says("(what is told of rain is not asked)");
         likely(x, 0, 0, 9, 8, 0, 1);
         C.says("all else as by day (a folded one stays as it is)");
@@ -309,6 +322,11 @@ public final class BoundaryQuestionsTest {
         likely(lawful("day / 3 * 9", common, "day;lay 0 0;"), 0, 8, 1, 3, 1, 1);
         likely(lawful("grey / 9 * 9", common, "lay 1 1;"), 1, 8, 1, 1, 1, 1);
         likely(lawful("0 - 9", common, "lay 0 0;"), 0, 8, 1, 8, 0, 1);
+        likely(lawful("99", "cell 0;strip 1 99;", "lay 0 0;"), 0, 8, 1, 1, 1, 1);
+        likely(lawful("0", "cell 0;strip 1 99;", "lay 0 0;"), 0, 8, 1, 8, 0, 1);
+        // 18 becomes 9, if it rains, else 12; 9 is WHITE then, if it rains, else 6; 12 is 5 or 8
+        LinenGuilt byGrey = lawful("grey / 3 + grey % 2 * rain * 6 + (1 - grey % 2) * rain * 3", common, "lay 1 1;");
+        likely(byGrey, 1, 4, 1, 2, 1, 16);
         likely(lawful("99", common, "lay 0 0;"), 0, 8, 1, 1, 1, 1);
         C.says("LIKELY (q 0 to 16; r 0 to 9; n 0 to 8): above (part 0), below (part 1), in least terms");
         likely(x, 0, 0, 9, 1, 0, 1);
@@ -421,6 +439,8 @@ public final class BoundaryQuestionsTest {
         ask(y, 2, NONE, NONE);
         LinenGuilt nines = Checks.told(times(8, "deed 9;"));
         ask(nines, 72, 0, 1);
+        ask(nines, 0, 0, 1);
+        ask(nines, 1, 0, 0);
         Checks.sayings(nines, "0 1;1 1;2 1;3 1;4 1;5 1;6 1;");
         ask(nines, 72, 7, 1);
         C.wrong("ask(73, 0)", x, () -> x.ask(73, 0));
@@ -583,6 +603,7 @@ public final class BoundaryQuestionsTest {
         pair("sunniest(1), it lies there wetted", 1, 7, x.sunniest(1, 0), x.sunniest(1, 1));
         pair("sunniest(2), as many CELLS", 0, 3, x.sunniest(2, 0), x.sunniest(2, 1));
         Checks.law(x, "milk * 50 + wet * 9 + first");
+        C.due("strip(1, 5), as it lies", 50 + 9 + 1, x.strip(1, 5));
         pair("sunniest(1), the last CELL", 5, 5, x.sunniest(1, 0), x.sunniest(1, 1));
         pair("sunniest(0), the last row", 4, 4, x.sunniest(0, 0), x.sunniest(0, 1));
         Checks.law(x, "0 - 1");

@@ -348,6 +348,10 @@ public final class BoundaryTextsTest {
         reads("common", "cel 9;", -9, 0);
         reads("common", "cells 9;", -9, 0);
         reads("common", "cellstrip 9;", -9, 0);
+        reads("common", "cella 9;", -9, 0);
+        reads("common", "cellz 9;", -9, 0);
+        reads("common", "cell" + (char) ('a' - 1) + "9;", -9, 4);
+        reads("common", "cell{9;", -9, 4);
         reads("common", "Cell 9;", -9, 0);
         reads("common", "cEll 9;", -9, 0);
         reads("common", "ce ll 9;", -9, 0);
@@ -446,7 +450,7 @@ public final class BoundaryTextsTest {
     }
 
     private static void newObject() {
-        C.says("Promise 1: A COMMON without CLAUSES");
+        C.says("A COMMON without CLAUSES");
         LinenGuilt x = new LinenGuilt();
         LinenGuilt y = Checks.told("");
         int[] due = {0, 0, 0, 0, 0, 0, 5, 0, 0, 0, 0, 0};
@@ -538,36 +542,46 @@ public final class BoundaryTextsTest {
     }
 
     /** All that a COMMON without a FAULT begins anew is there. */
-    private static LinenGuilt full() {
-        LinenGuilt x = Checks.told("cell 3;cell 4;strip 1 50;strip 2 60;deed 4;rain 2;milk 9;sight 3;");
+    private static void fill(LinenGuilt x) {
+        Checks.common(x, "cell 3;cell 4;strip 1 50;strip 2 60;deed 4;rain 2;milk 9;sight 3;");
         Checks.law(x, "7");
         Checks.sayings(x, "0 1;");
         Checks.work(x, "day;lay 0 0;wet 0;milk 0;lay 0 0;");
         x.image();
-        return x;
     }
 
     private static void behindACommon() {
         C.says("(DAY 0; no LAW, SAYINGS, IMAGES, nothing to undo): how many STRIPS");
-        LinenGuilt x = full();
-        C.due("common", 2, Checks.common(x, "cell 3;cell 4;strip 1 50;strip 2 60;deed 4;"));
-        int[] due = {2, 2, 1, 0, 0, 0, 5, 0, 0, 0, 0, 110};
-        for (int what = 0; what < 12; what++) {
-            C.due("told(" + what + ")", due[what], x.told(what));
+        LinenGuilt x = new LinenGuilt();
+        // nor is there more behind a third COMMON than behind the second
+        for (int i = 0; i < 4; i++) {
+            fill(x);
+            C.due("common", 2, Checks.common(x, "cell 3;cell 4;strip 1 50;strip 2 60;deed 4;"));
+            int[] due = {2, 2, 1, 0, 0, 0, 5, 0, 0, 0, 0, 110};
+            for (int what = 0; what < 12; what++) {
+                C.due("told(" + what + ")", due[what], x.told(what));
+            }
+            int[] strip = {1, 50, NONE, 0, 0, 0};
+            for (int what = 0; what < 6; what++) {
+                C.due("strip(0, " + what + ")", strip[what], x.strip(0, what));
+            }
+            C.due("no LAW", 9, x.would(9, 1, 0, 0, 0, 0, 0, 0));
+            C.due("no SAYINGS", 1, x.mayBe(0, 0));
+            C.due("no IMAGES", 0, x.count(0));
+            C.due("restore()", -1, x.restore());
+            C.due("nothing to undo", 0, x.count(2));
+            C.due("undo()", -1, x.undo());
         }
-        C.due("no LAW", 9, x.would(9, 1, 0, 0, 0, 0, 0, 0));
-        C.due("no SAYINGS", 1, x.mayBe(0, 0));
-        C.due("no IMAGES", 0, x.count(0));
-        C.due("restore()", -1, x.restore());
-        C.due("nothing to undo", 0, x.count(2));
-        C.due("undo()", -1, x.undo());
         C.due("common of none", 0, x.common(0));
+        C.due("told(0)", 0, x.told(0));
         C.due("told(1)", 0, x.told(1));
+        C.due("told(2)", 0, x.told(2));
     }
 
     private static void behindAFault() {
         C.says("or the FAULT less 10 (all but the TAPE stays)");
-        LinenGuilt x = full();
+        LinenGuilt x = new LinenGuilt();
+        fill(x);
         String ahead = state(x);
         C.due("common", -8, Checks.common(x, "cell 5;strip 3 9;rain 10;"));
         C.due("count(1)", 0, x.count(1));

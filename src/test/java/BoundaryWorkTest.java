@@ -509,6 +509,26 @@ public final class BoundaryWorkTest {
         C.due("SAYINGS stay", 1, x.told(9));
         C.due("image() again", 1, x.image());
         C.due("restore() of a new one", -1, new LinenGuilt().restore());
+        imageOfWorks();
+    }
+
+    private static void imageOfWorks() {
+        LinenGuilt x = Checks.told(COMMON, "lay 0 0;");
+        Checks.work(x, "lay 1 3;");
+        x.image();
+        x.undo();
+        x.undo();
+        Checks.work(x, "day;");
+        Checks.work(x, "day;lay 2 1;");
+        Checks.work(x, "day;");
+        C.due("restore()", 0, x.restore());
+        C.due("undo() of the IMAGE's second WORK", 1, x.undo());
+        C.due("told(4)", 0, x.told(4));
+        C.due("strip(0, 2)", 0, x.strip(0, 2));
+        C.due("told(7)", 1, x.told(7));
+        C.due("undo() of the IMAGE's first WORK", 0, x.undo());
+        C.due("told(4)", 0, x.told(4));
+        C.due("told(7)", 0, x.told(7));
         LinenGuilt y = Checks.told(COMMON);
         for (int i = 0; i < 16; i++) {
             Checks.work(y, "day;");
