@@ -230,6 +230,10 @@ public final class BoundaryQuestionsTest {
         C.due("packed(3, 1), packed(2, 1) asked ahead", 1, alone.packed(3, 1));
         C.due("packed(3, 0)", 0, alone.packed(3, 0));
         C.due("packed(1, 0)", 1, alone.packed(1, 0));
+        Checks.common(alone, "cell 1;cell 9;strip 1 50;");
+        packed(alone, 1, 9, 1);
+        Checks.common(alone, "cell 1;cell 9;");
+        C.due("pack(0), no STRIPS any more", 0, alone.pack(0));
     }
 
     private static void wetted(LinenGuilt x, int n, int gone, int... given) {
@@ -281,6 +285,12 @@ public final class BoundaryQuestionsTest {
         wetted(six, 20, 54 + 40, 2, 9, 9, 0, 0, 0);
         wetted(six, 0, 54, 0, 0, 0, 0, 0, 0);
         C.due("wetted(9, 2), wets(20) asked ahead", 9, six.wetted(9, 2));
+        Checks.common(six, "cell 1;cell 1;strip 1 50;strip 1 50;");
+        Checks.work(six, "lay 0 0;");
+        wetted(six, 0, 1, 0, 0);
+        wetted(six, 9, 19, 9, 0);
+        Checks.common(six, "cell 1;");
+        C.due("wets(0), no STRIPS any more", 0, six.wets(0));
         C.wrong("wets(21)", x, () -> x.wets(21));
         C.wrong("wets(-1)", x, () -> x.wets(-1));
         LinenGuilt none = Checks.told(common);
@@ -327,6 +337,14 @@ public final class BoundaryQuestionsTest {
         // 18 becomes 9, if it rains, else 12; 9 is WHITE then, if it rains, else 6; 12 is 5 or 8
         LinenGuilt byGrey = lawful("grey / 3 + grey % 2 * rain * 6 + (1 - grey % 2) * rain * 3", common, "lay 1 1;");
         likely(byGrey, 1, 4, 1, 2, 1, 16);
+        likely(byGrey, 1, 4, 1, 3, 7, 64);
+        LinenGuilt two = lawful("0", "cell 0;cell 0;strip 1 99;strip 1 98;", "lay 0 0;lay 1 1;");
+        likely(two, 0, 8, 1, 3, 0, 1);
+        Checks.law(two, "(100 - grey) * 49");
+        likely(two, 1, 8, 1, 2, 1, 1);
+        likely(two, 1, 8, 1, 1, 1, 1);
+        likely(two, 0, 8, 1, 1, 0, 1);
+        likely(two, 0, 8, 1, 2, 1, 1);
         likely(lawful("99", common, "lay 0 0;"), 0, 8, 1, 1, 1, 1);
         C.says("LIKELY (q 0 to 16; r 0 to 9; n 0 to 8): above (part 0), below (part 1), in least terms");
         likely(x, 0, 0, 9, 1, 0, 1);
@@ -589,6 +607,12 @@ public final class BoundaryQuestionsTest {
         y.undo();
         Checks.work(y, "day;");
         pair("greyest, all WHITE", 0, 0, y.greyest(0), y.greyest(1));
+        LinenGuilt six = Checks.told(times(12, "cell 0;") + times(5, "strip 2 9;") + "strip 2 99;",
+                "lay 0 0;lay 1 2;lay 2 4;lay 3 6;lay 4 8;lay 5 10;");
+        pair("greyest, the last of six", 5, 99, six.greyest(0), six.greyest(1));
+        pair("free, all six lie", 0, NONE, six.free(0), six.free(1));
+        C.due("spare(), all six lie", 54, six.spare());
+        C.due("told(7), all six lie", 6, six.told(7));
         C.wrong("greyest(2)", y, () -> y.greyest(2));
         C.wrong("greyest(-1)", y, () -> y.greyest(-1));
         sunniest(common);

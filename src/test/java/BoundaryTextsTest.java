@@ -402,6 +402,13 @@ public final class BoundaryTextsTest {
         reads("law", "1 +) 2", -9, 3);
         reads("work", "];", -9, 0);
         reads("sayings", "0 1,", -9, 3);
+        for (String kind : new String[] {"common", "law", "work", "sayings"}) {
+            String right = kind.equals("common") ? "cell 1;" : kind.equals("law") ? "sun" : kind.equals("work") ? "day;" : "0 1;";
+            for (int sign : new int[] {0, 1, 9, 10, 31, 33, 126, 127, 128, 255}) {
+                reads(kind, right + (char) sign, -9, right.length());
+                reads(kind, (char) sign + right, -9, 0);
+            }
+        }
         C.says("2 a number that is none such (a D twice)");
         reads("common", "milk 100", -8, 5);
         reads("law", "1000x", -8, 0);
@@ -512,6 +519,17 @@ public final class BoundaryTextsTest {
             C.due(kind + "(0)", kind.equals("law") ? -9 : 0, call(x, kind, 0));
             C.due("count(1) behind " + kind + "(0)", 0, x.count(1));
         }
+        C.says("The first n bytes of the TAPE (empty then)");
+        LinenGuilt x = Checks.told("cell 1;");
+        Checks.feed(x, "12+grey");
+        C.due("law(1)", 1, x.law(1));
+        C.due("would by 1", 1, x.would(9, 1, 50, 0, 0, 0, 0, 0));
+        Checks.feed(x, "sunk");
+        C.due("law(3)", 1, x.law(3));
+        C.due("would by sun", 9, x.would(9, 1, 50, 0, 0, 0, 0, 0));
+        C.due("feed behind it", 20, x.feed(0x67726579, 0, 0, 0, 0));
+        C.due("law(4)", 1, x.law(4));
+        C.due("would by grey", 50, x.would(9, 1, 50, 0, 0, 0, 0, 0));
         longest("Likewise the LAW (n to 150): 1", "law", 150, -9);
         longest("Likewise WORK (n to 150)", "work", 150, 0);
         longest("Likewise SAYINGS (n to 60)", "sayings", 60, 0);
@@ -554,8 +572,12 @@ public final class BoundaryTextsTest {
         C.says("(DAY 0; no LAW, SAYINGS, IMAGES, nothing to undo): how many STRIPS");
         LinenGuilt x = new LinenGuilt();
         // nor is there more behind a third COMMON than behind the second
-        for (int i = 0; i < 4; i++) {
+        for (int i = 0; i < 6; i++) {
+            if (i % 2 == 1) {
+                C.due("common of none", 0, x.common(0));
+            }
             fill(x);
+            C.due("told(3)", 1, x.told(3));
             C.due("common", 2, Checks.common(x, "cell 3;cell 4;strip 1 50;strip 2 60;deed 4;"));
             int[] due = {2, 2, 1, 0, 0, 0, 5, 0, 0, 0, 0, 110};
             for (int what = 0; what < 12; what++) {
