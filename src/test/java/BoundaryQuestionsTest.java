@@ -341,7 +341,7 @@ public final class BoundaryQuestionsTest {
         LinenGuilt two = lawful("0", "cell 0;cell 0;strip 1 99;strip 1 98;", "lay 0 0;lay 1 1;");
         likely(two, 0, 8, 1, 3, 0, 1);
         Checks.law(two, "(100 - grey) * 49");
-        likely(two, 1, 8, 1, 2, 1, 1);
+        likely(two, 1, 8, 1, 3, 1, 1);
         likely(two, 1, 8, 1, 1, 1, 1);
         likely(two, 0, 8, 1, 1, 0, 1);
         likely(two, 0, 8, 1, 2, 1, 1);
@@ -673,7 +673,7 @@ public final class BoundaryQuestionsTest {
 
     /** DRAW by DRAW what is left of the SEED, counted in 64 bits. */
     private static int[] draws(int seed) {
-        int[] out = new int[12];
+        int[] out = new int[24];
         long s = seed & 0xffffffffL;
         for (int i = 0; i < out.length; i++) {
             s = (s * 1103515245L + 12345L) % 4294967296L;
@@ -737,25 +737,28 @@ public final class BoundaryQuestionsTest {
         LinenGuilt x = Checks.told("strip 1 9;");
         LinenGuilt one = Checks.told("cell 1;strip 1 9;");
         for (int seed : SEEDS) {
-            int[] draws = draws(seed);
-            int at = 0;
-            int rains = 0;
-            int rainsWithCell = 0;
-            for (int day = 0; day < 3; day++) {
-                boolean rain = draws[at] % 16 < 8;
-                rains += rain ? 1 : 0;
-                at += rain ? 3 : 2;
+            for (int m = 0; m <= 16; m += 8) {
+                C.due("summer(" + seed + ", 5, 8, " + m + ", 3)", rains(seed, 5, 8, m, 0), x.summer(seed, 5, 8, m, 3));
+                C.due("summer(" + seed + ", 5, 8, " + m + ", 2)", 0, x.summer(seed, 5, 8, m, 2));
+                C.due("with a CELL, summer(" + seed + ", 5, 8, " + m + ", 3)", rains(seed, 5, 8, m, 1),
+                        one.summer(seed, 5, 8, m, 3));
             }
-            at = 0;
-            for (int day = 0; day < 3; day++) {
-                boolean rain = draws[at] % 16 < 8;
-                rainsWithCell += rain ? 1 : 0;
-                at += rain ? 4 : 3;
-            }
-            C.due("summer(" + seed + ", 3, 8, 16, 3)", rains, x.summer(seed, 3, 8, 16, 3));
-            C.due("summer(" + seed + ", 3, 8, 16, 2)", 0, x.summer(seed, 3, 8, 16, 2));
-            C.due("with a CELL, summer(" + seed + ", 3, 8, 16, 3)", rainsWithCell, one.summer(seed, 3, 8, 16, 3));
         }
+    }
+
+    /** By Q and by M there is a DRAW each DAY, even if none can be below them. */
+    private static int rains(int seed, int days, int q, int m, int cells) {
+        int[] draws = draws(seed);
+        int at = 0;
+        int rains = 0;
+        for (int day = 0; day < days; day++) {
+            boolean rain = draws[at] % 16 < q;
+            at += rain ? 2 : 1;
+            boolean mole = draws[at] % 16 < m;
+            at += mole && cells > 0 ? 2 : 1;
+            rains += rain ? 1 : 0;
+        }
+        return rains;
     }
 
     private static void boundsOfASummer() {

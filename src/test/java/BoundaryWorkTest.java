@@ -389,6 +389,10 @@ public final class BoundaryWorkTest {
         C.due("cell(3, 1)", 1, x.cell(3, 1));
         C.due("cell(4, 1)", 1, x.cell(4, 1));
         C.due("cell(5, 1)", NONE, x.cell(5, 1));
+        LinenGuilt six = Checks.told(times(7, "cell 1;") + times(6, "strip 1 9;"),
+                "lay 0 0;lay 1 1;lay 2 2;lay 3 3;lay 4 4;lay 5 5;");
+        C.due("cell(5, 1) of six that lie", 5, six.cell(5, 1));
+        C.due("cell(6, 1) of six that lie", NONE, six.cell(6, 1));
         C.wrong("cell(0, 2)", x, () -> x.cell(0, 2));
         C.wrong("cell(0, -1)", x, () -> x.cell(0, -1));
         C.says("NoSuchElementException: no such CELL, STRIP, DEED (so below, ahead of others)");
@@ -567,6 +571,9 @@ public final class BoundaryWorkTest {
         x.restore();
         C.due("status(0)", 2, x.status(0));
         C.due("status(1)", 3, x.status(1));
+        Checks.common(x, COMMON);
+        C.due("status(0), behind common()", 2, x.status(0));
+        C.due("status(1), behind common()", 3, x.status(1));
         C.says("0 IMAGES, 1 bytes of the TAPE, 2 WORKS that can be undone; NONE for others");
         x.image();
         x.work(0);
