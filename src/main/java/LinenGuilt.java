@@ -1385,24 +1385,25 @@ public final class LinenGuilt {
         }
     }
 
-    /** Strips laid so that most grey is gone: the best of each strip and those behind it, by the cells lain on. */
+    /** Strips laid so that most grey is gone: by the cells lain on, the best of the strips from one on. */
     private static final class Packing {
         private static final int SETS = 1 << MOST_CELLS;
+        private static final int FOLDED = 15;
 
-        private final int[] best = new int[(MOST_STRIPS + 1) * SETS];
-        private final int[] gone = new int[MOST_STRIPS * MOST_CELLS];
+        private final int[] best = new int[SETS];
+        private final int[] choices = new int[SETS];
+        private final int[] gone = new int[MOST_CELLS];
         private final int[] place = new int[MOST_STRIPS];
 
         int find(Common common, Linen linen, int told) {
             for (int lain = 0; lain < SETS; lain++) {
-                best[common.strips * SETS + lain] = 0;
+                best[lain] = 0;
             }
             for (int strip = common.strips - 1; strip >= 0; strip--) {
-                boolean asked = (told >> strip & 1) == 1;
-                if (asked) {
+                if ((told >> strip & 1) == 1) {
                     weigh(common, linen, strip);
+                    chooseAll(common, strip, common.yardsOf(told & ((1 << strip) - 1)));
                 }
-                fillRow(common, strip, asked, common.yardsOf(told & ((1 << strip) - 1)));
             }
             trace(common, told);
             return best[0];
@@ -1410,52 +1411,43 @@ public final class LinenGuilt {
 
         private void weigh(Common common, Linen linen, int strip) {
             for (int cell = 0; cell + common.yards[strip] <= common.cells; cell++) {
-                int whitens = linen.whitensDry(common, strip, cell);
-                gone[strip * MOST_CELLS + cell] = Math.min(whitens, linen.grey[strip]);
+                gone[cell] = Math.min(linen.whitensDry(common, strip, cell), linen.grey[strip]);
             }
         }
 
-        /** Strips ahead can't lie on more cells than their yards: sets of more cells are never come to. */
-        private void fillRow(Common common, int strip, boolean asked, int yardsAhead) {
+        /**
+         * A strip that lies makes the set greater, so from the least set on each one finds those of the strips behind.
+         * Strips ahead can't lie on more cells than their yards: sets of more cells are never come to.
+         */
+        private void chooseAll(Common common, int strip, int yardsAhead) {
             for (int lain = 0; lain < 1 << common.cells; lain++) {
                 if (Integer.bitCount(lain) <= yardsAhead) {
-                    best[strip * SETS + lain] = asked ? bestBy(common, strip, lain) : best[(strip + 1) * SETS + lain];
+                    choose(common, strip, lain);
                 }
             }
         }
 
-        private int bestBy(Common common, int strip, int lain) {
-            int most = best[(strip + 1) * SETS + lain];
+        /** From the last cell to the first, so that of alike ways the least cell stays, and folded only if it is better. */
+        private void choose(Common common, int strip, int lain) {
             int bits = rowBits(0, common.yards[strip]);
-            for (int cell = 0; cell + common.yards[strip] <= common.cells; cell++) {
-                if ((lain & bits << cell) == 0) {
-                    most = Math.max(most, goneFrom(strip, cell, lain | bits << cell));
+            int choice = FOLDED;
+            for (int cell = common.cells - common.yards[strip]; cell >= 0; cell--) {
+                boolean open = (lain & bits << cell) == 0;
+                if (open && gone[cell] + best[lain | bits << cell] >= best[lain]) {
+                    best[lain] = gone[cell] + best[lain | bits << cell];
+                    choice = cell;
                 }
             }
-            return most;
-        }
-
-        private int goneFrom(int strip, int cell, int lainThen) {
-            return gone[strip * MOST_CELLS + cell] + best[(strip + 1) * SETS + lainThen];
+            choices[lain] = choices[lain] & ~(FOLDED << 4 * strip) | choice << 4 * strip;
         }
 
         private void trace(Common common, int told) {
             int lain = 0;
             for (int strip = 0; strip < common.strips; strip++) {
-                place[strip] = (told >> strip & 1) == 1 ? firstBest(common, strip, lain) : NONE;
-                lain |= place[strip] == NONE ? 0 : rowBits(place[strip], common.yards[strip]);
+                int choice = (told >> strip & 1) == 1 ? choices[lain] >> 4 * strip & FOLDED : FOLDED;
+                place[strip] = choice == FOLDED ? NONE : choice;
+                lain |= choice == FOLDED ? 0 : rowBits(choice, common.yards[strip]);
             }
-        }
-
-        private int firstBest(Common common, int strip, int lain) {
-            int bits = rowBits(0, common.yards[strip]);
-            for (int cell = 0; cell + common.yards[strip] <= common.cells; cell++) {
-                boolean open = (lain & bits << cell) == 0;
-                if (open && goneFrom(strip, cell, lain | bits << cell) == best[strip * SETS + lain]) {
-                    return cell;
-                }
-            }
-            return NONE;
         }
     }
 
